@@ -23,6 +23,7 @@ public final class PerhapsRows {
     private static final int MOST_NESTS = 16;
     private static final int MOST_SLOTS = 4;
     private static final int MOST_LAYERS = 4;
+    private static final int MOST_FIRST_LAYER = 16;
     private static final int MOST_PUTS = 20;
     private static final int MOST_MONEY = 999;
     private static final int FULL_COUNT = 15;
@@ -33,8 +34,6 @@ public final class PerhapsRows {
     private static final int LAYERS = 3;
     private static final int SOLVED = 4;
 
-    private final byte[] tape;
-    private int taped;
     private int faultKind;
     private int faultPlace;
     private int upperNumber;
@@ -50,9 +49,10 @@ public final class PerhapsRows {
     private final Levels levels;
 
     public PerhapsRows() {
-        tape = new byte[TAPE_BYTES];
         faultPlace = NONE;
         now = new Shelf();
+        now.rules.clear();
+        now.rules.fillTags();
         images = new Shelf[MANY_IMAGES];
         for (int i = 0; i < MANY_IMAGES; i++) {
             images[i] = new Shelf();
@@ -71,30 +71,23 @@ public final class PerhapsRows {
     // ---- the rules
 
     public int feed(int a, int b, int c, int d, int e) {
-        if (taped + BYTES_FED > TAPE_BYTES) {
+        if (reader.taped + BYTES_FED > TAPE_BYTES) {
             return NONE;
         }
-        append(a);
-        append(b);
-        append(c);
-        append(d);
-        append(e);
-        return taped;
-    }
-
-    private void append(int four) {
-        for (int shift = 24; shift >= 0 && taped < tape.length; shift -= 8) {
-            tape[taped] = (byte) (four >>> shift);
-            taped++;
-        }
+        reader.append(a);
+        reader.append(b);
+        reader.append(c);
+        reader.append(d);
+        reader.append(e);
+        return reader.taped;
     }
 
     public int rules(int n) throws IllegalArgumentException {
-        if (n < 0 || n > taped) {
+        if (n < 0 || n > reader.taped) {
             throw new IllegalArgumentException("the tape has not so many bytes");
         }
-        boolean understood = reader.readAll(tape, n);
-        taped = 0;
+        boolean understood = reader.readAll(n);
+        reader.taped = 0;
         faultKind = reader.fault;
         faultPlace = reader.faultPlace;
         if (!understood) {
@@ -157,7 +150,7 @@ public final class PerhapsRows {
         if (kind < BITS || kind > SOLVED) {
             return false;
         }
-        int mostSize = kind == NESTS || kind == LAYERS ? MOST_NESTS : MOST_BITS;
+        int mostSize = kind == NESTS ? MOST_NESTS : kind == LAYERS ? MOST_FIRST_LAYER : MOST_BITS;
         if (size < 1 || size > mostSize || marks < 1 || marks > now.rules.marks) {
             return false;
         }
@@ -345,7 +338,7 @@ public final class PerhapsRows {
     private int countLies(Row asked) {
         int lies = 0;
         for (int name = 0; name < now.rules.world; name++) {
-            if (isLie(asked, name)) {
+            if (!asked.within.has(name) && asked.says(now.rules, name)) {
                 lies++;
             }
         }
@@ -533,7 +526,7 @@ public final class PerhapsRows {
             case 4:
                 return now.rowsThere();
             case 5:
-                return taped;
+                return reader.taped;
             default:
                 return NONE;
         }
@@ -699,7 +692,7 @@ public final class PerhapsRows {
             }
         }
 
-        int length() {
+        int emitted() {
             return length;
         }
 
@@ -735,7 +728,10 @@ public final class PerhapsRows {
         }
 
         int placeOf(int mark, int name, int size) {
-            return modulo(valueOf(mark, name, size), size);
+            if (mark < 0 || mark >= marks) {
+                return 0;
+            }
+            return modulo(compute(starts[mark], ends[mark], name, size), size);
         }
 
         /** The places of a name in bits of a size of 64 at most, one bit each. */
@@ -751,32 +747,34 @@ public final class PerhapsRows {
             int top = 0;
             for (int i = start; i < end && i < code.length; i++) {
                 int step = code[i];
-                if (step > ADD) {
-                    if (top < STACK) {
-                        stack[top] = step == NAME ? name : step == SIZE ? size : step;
-                        top++;
-                    }
-                } else if (top >= 2) {
+                if (step > ADD && top < STACK) {
+                    stack[top] = step == NAME ? name : step == SIZE ? size : step;
+                    top++;
+                } else if (step <= ADD && top >= 2) {
                     top--;
-                    stack[top - 1] = apply(step, stack[top - 1], stack[top]);
+                    int left = stack[top - 1];
+                    int right = stack[top];
+                    switch (step) {
+                        case ADD:
+                            left += right;
+                            break;
+                        case SUBTRACT:
+                            left -= right;
+                            break;
+                        case MULTIPLY:
+                            left *= right;
+                            break;
+                        case DIVIDE:
+                            left = right == 0 ? 0 : left / right;
+                            break;
+                        default:
+                            left = right == 0 ? 0 : left % right;
+                            break;
+                    }
+                    stack[top - 1] = left;
                 }
             }
             return stack[0];
-        }
-
-        private static int apply(int step, int left, int right) {
-            switch (step) {
-                case ADD:
-                    return left + right;
-                case SUBTRACT:
-                    return left - right;
-                case MULTIPLY:
-                    return left * right;
-                case DIVIDE:
-                    return right == 0 ? 0 : left / right;
-                default:
-                    return right == 0 ? 0 : left % right;
-            }
         }
 
         void copyFrom(Rules other) {
@@ -794,7 +792,7 @@ public final class PerhapsRows {
         }
     }
 
-    /** Reads a TEXT into a draft of THE RULES, up to its first FAULT. */
+    /** Holds the tape, and reads a TEXT from it into a draft of THE RULES, up to its first FAULT. */
     private static final class Reader {
         private static final int END = 0;
         private static final int BAD = 1;
@@ -811,135 +809,140 @@ public final class PerhapsRows {
         private static final int MOST_DIGITS = 5;
         private static final int MOST_OPEN = 6;
 
+        // what may stand next
+        private static final int LINE_NEXT = 0;
+        private static final int BOUND_NEXT = 1;
+        private static final int SEMICOLON_NEXT = 2;
+        private static final int OPERAND_NEXT = 3;
+        private static final int OPERATOR_NEXT = 4;
+
+        private static final int STANDS = 0;
+        // a ( among the steps that wait, which are all below 0
+        private static final int BRACKET = 0;
+        // around each of the 6 ( that may be open, and outside of them, two steps wait at most
+        private static final int MOST_WAITING = 3 * MOST_OPEN + 2;
+
         final Rules draft = new Rules();
+        int taped;
         int fault;
         int faultPlace;
-        private byte[] text;
+        private final byte[] tape = new byte[TAPE_BYTES];
+        private final int[] waiting = new int[MOST_WAITING];
+        private int manyWaiting;
         private int length;
         private int start;
         private int end;
         private int token;
         private int number;
+        private int next;
+        private int head;
+        private int from;
+        private int open;
 
-        boolean readAll(byte[] bytes, int many) {
-            text = bytes;
+        void append(int four) {
+            for (int shift = 24; shift >= 0 && taped < tape.length; shift -= 8) {
+                tape[taped] = (byte) (four >>> shift);
+                taped++;
+            }
+        }
+
+        /** Whether the first so many bytes are without FAULT. */
+        boolean readAll(int many) {
             length = many;
-            fault = 0;
-            faultPlace = NONE;
             end = 0;
+            next = LINE_NEXT;
             draft.clear();
             advance();
-            for (int i = 0; i <= length && token != END; i++) {
-                if (!readLine()) {
-                    return false;
+            int kind = STANDS;
+            for (int i = 0; i <= length && token != END && kind == STANDS; i++) {
+                kind = accept();
+                if (kind == STANDS) {
+                    advance();
                 }
-                if (token != ';') {
-                    return refuse(2);
-                }
-                advance();
-                draft.lines++;
             }
-            draft.fillTags();
-            return true;
+            if (kind == STANDS && next != LINE_NEXT) {
+                kind = 2;
+            }
+            fault = kind;
+            faultPlace = kind == STANDS ? NONE : start;
+            if (kind == STANDS) {
+                draft.fillTags();
+            }
+            return kind == STANDS;
         }
 
-        /** The token that stands now is at fault; what no token begins with is so first of all. */
-        private boolean refuse(int kind) {
-            fault = token == BAD ? 1 : kind;
-            faultPlace = start;
-            return false;
-        }
-
-        private boolean readLine() {
-            switch (token) {
-                case WORLD:
-                case TAGS:
-                    return readBound();
-                case MARK:
-                    return readMark();
-                case TAG:
-                    return readTag();
+        /** The kind of FAULT of the token, if it is at fault. */
+        private int accept() {
+            if (token == BAD) {
+                return 1;
+            }
+            switch (next) {
+                case LINE_NEXT:
+                    return acceptHead();
+                case BOUND_NEXT:
+                    return acceptBound();
+                case OPERAND_NEXT:
+                    return acceptOperand();
+                case OPERATOR_NEXT:
+                    return acceptOperator();
                 default:
-                    return refuse(2);
+                    return acceptSemicolon();
             }
         }
 
-        private boolean readBound() {
-            boolean ofWorld = token == WORLD;
-            advance();
+        private int acceptHead() {
+            head = token;
+            if (token == WORLD || token == TAGS) {
+                next = BOUND_NEXT;
+                return STANDS;
+            }
+            if (token != MARK && token != TAG) {
+                return 2;
+            }
+            if (token == MARK && draft.marks >= MOST_MARKS) {
+                return 4;
+            }
+            from = draft.emitted();
+            open = 0;
+            manyWaiting = 0;
+            next = OPERAND_NEXT;
+            return STANDS;
+        }
+
+        private int acceptBound() {
             if (token != NUMBER) {
-                return refuse(2);
+                return 2;
             }
-            if (number < 2 || number > (ofWorld ? MOST_NAMES : MOST_TAGS)) {
-                return refuse(3);
+            if (number < 2 || number > (head == WORLD ? MOST_NAMES : MOST_TAGS)) {
+                return 3;
             }
-            if (ofWorld) {
+            if (head == WORLD) {
                 draft.world = number;
             } else {
                 draft.tags = number;
             }
-            advance();
-            return true;
+            next = SEMICOLON_NEXT;
+            return STANDS;
         }
 
-        private boolean readMark() {
-            if (draft.marks >= MOST_MARKS) {
-                return refuse(4);
+        private int acceptSemicolon() {
+            if (token != ';') {
+                return 2;
             }
-            int from = draft.length();
-            advance();
-            if (!readSum(0)) {
-                return false;
-            }
-            draft.addMark(from);
-            return true;
+            draft.lines++;
+            next = LINE_NEXT;
+            return STANDS;
         }
 
-        private boolean readTag() {
-            int from = draft.length();
-            advance();
-            if (!readSum(0)) {
-                return false;
-            }
-            draft.setTag(from);
-            return true;
-        }
-
-        /** E: open tells how many ( are open around it. */
-        private boolean readSum(int open) {
-            if (!readProduct(open)) {
-                return false;
-            }
-            for (int i = 0; i <= length && (token == '+' || token == '-'); i++) {
-                int step = token == '+' ? Rules.ADD : Rules.SUBTRACT;
-                advance();
-                if (!readProduct(open)) {
-                    return false;
-                }
-                draft.emit(step);
-            }
-            return true;
-        }
-
-        private boolean readProduct(int open) {
-            if (!readUnit(open)) {
-                return false;
-            }
-            for (int i = 0; i <= length && (token == '*' || token == '/' || token == '%'); i++) {
-                int step = token == '*' ? Rules.MULTIPLY : token == '/' ? Rules.DIVIDE : Rules.REST;
-                advance();
-                if (!readUnit(open)) {
-                    return false;
-                }
-                draft.emit(step);
-            }
-            return true;
-        }
-
-        private boolean readUnit(int open) {
+        private int acceptOperand() {
             switch (token) {
                 case '(':
-                    return readNested(open);
+                    if (open >= MOST_OPEN) {
+                        return 5;
+                    }
+                    open++;
+                    holdBack(BRACKET);
+                    return STANDS;
                 case NUMBER:
                     draft.emit(number);
                     break;
@@ -950,29 +953,88 @@ public final class PerhapsRows {
                     draft.emit(Rules.SIZE);
                     break;
                 default:
-                    return refuse(2);
+                    return 2;
             }
-            advance();
-            return true;
+            next = OPERATOR_NEXT;
+            return STANDS;
         }
 
-        private boolean readNested(int open) {
-            if (open >= MOST_OPEN) {
-                return refuse(5);
+        private int acceptOperator() {
+            int step = stepOf(token);
+            if (step != BRACKET) {
+                emitWaiting(rankOf(step));
+                holdBack(step);
+                next = OPERAND_NEXT;
+                return STANDS;
             }
-            advance();
-            if (!readSum(open + 1)) {
-                return false;
+            if (token == ')' && open > 0) {
+                emitWaiting(1);
+                manyWaiting = Math.max(manyWaiting - 1, 0);
+                open--;
+                return STANDS;
             }
-            if (token != ')') {
-                return refuse(2);
+            if (token == ';' && open == 0) {
+                emitWaiting(1);
+                finishExpression();
+                return acceptSemicolon();
             }
-            advance();
-            return true;
+            return 2;
+        }
+
+        private void finishExpression() {
+            if (head == MARK) {
+                draft.addMark(from);
+            } else {
+                draft.setTag(from);
+            }
+        }
+
+        /** The step of an operator's sign; BRACKET for other tokens. */
+        private static int stepOf(int sign) {
+            switch (sign) {
+                case '+':
+                    return Rules.ADD;
+                case '-':
+                    return Rules.SUBTRACT;
+                case '*':
+                    return Rules.MULTIPLY;
+                case '/':
+                    return Rules.DIVIDE;
+                case '%':
+                    return Rules.REST;
+                default:
+                    return BRACKET;
+            }
+        }
+
+        private static int rankOf(int step) {
+            if (step == BRACKET) {
+                return 0;
+            }
+            return step == Rules.ADD || step == Rules.SUBTRACT ? 1 : 2;
+        }
+
+        private void holdBack(int step) {
+            if (manyWaiting < MOST_WAITING) {
+                waiting[manyWaiting] = step;
+                manyWaiting++;
+            }
+        }
+
+        /** Steps that wait come before what binds no closer than they do. */
+        private void emitWaiting(int rank) {
+            for (int i = 0; i < MOST_WAITING && manyWaiting > 0; i++) {
+                int step = waiting[manyWaiting - 1];
+                if (rankOf(step) < rank) {
+                    return;
+                }
+                draft.emit(step);
+                manyWaiting--;
+            }
         }
 
         private int byteAt(int i) {
-            return i >= 0 && i < length && i < text.length ? text[i] & 255 : NONE;
+            return i >= 0 && i < length && i < tape.length ? tape[i] & 255 : NONE;
         }
 
         private void advance() {
@@ -1052,8 +1114,7 @@ public final class PerhapsRows {
 
     /** A ROW of any KIND; what the cells hold depends on it (NESTS: a guest and 1, slot behind slot). */
     private static final class Row {
-        // four layers, of which the first has 16 places
-        private static final int MOST_CELLS = 240;
+        private static final int MOST_CELLS = MOST_FIRST_LAYER * ((1 << MOST_LAYERS) - 1);
 
         boolean there;
         int kind;
@@ -1115,20 +1176,14 @@ public final class PerhapsRows {
         }
 
         boolean says(Rules rules, int name) {
-            switch (kind) {
-                case NESTS:
-                    return hasGuestLike(rules, name, rules.placeOf(0, name, size))
-                            || hasGuestLike(rules, name, rules.placeOf(1, name, size));
-                case LAYERS:
-                    return someLayerSays(rules, name);
-                case SOLVED:
-                    return together(rules, name) == rules.tagOf(name);
-                default:
-                    return allAbove0(rules, name, 0, size);
+            if (kind == NESTS) {
+                return hasGuestLike(rules, name, rules.placeOf(0, name, size))
+                        || hasGuestLike(rules, name, rules.placeOf(1, name, size));
             }
-        }
-
-        private boolean someLayerSays(Rules rules, int name) {
+            if (kind == SOLVED) {
+                return together(rules, name) == rules.tagOf(name);
+            }
+            // BITS and COUNTS are one layer
             for (int layer = 0; layer < layers; layer++) {
                 if (allAbove0(rules, name, layerStart(layer), layerSize(layer))) {
                     return true;
@@ -1156,11 +1211,7 @@ public final class PerhapsRows {
 
         /** Puts a name's marks; false: no layer is left for it. */
         boolean mark(Rules rules, int name) {
-            if (kind != LAYERS) {
-                raise(rules, name, 0, size);
-                return true;
-            }
-            if (latestPuts >= extra) {
+            if (kind == LAYERS && latestPuts >= extra) {
                 if (layers >= MOST_LAYERS) {
                     return false;
                 }
@@ -1282,8 +1333,6 @@ public final class PerhapsRows {
             for (int i = 0; i < MANY_ROWS; i++) {
                 rows[i] = new Row();
             }
-            rules.clear();
-            rules.fillTags();
         }
 
         void removeRows() {
