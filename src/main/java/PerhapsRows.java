@@ -52,7 +52,7 @@ public final class PerhapsRows {
         faultPlace = NONE;
         now = new Shelf();
         now.rules.clear();
-        now.rules.fillTags();
+        now.rules.fillTables();
         images = new Shelf[MANY_IMAGES];
         for (int i = 0; i < MANY_IMAGES; i++) {
             images[i] = new Shelf();
@@ -669,10 +669,12 @@ public final class PerhapsRows {
         private int length;
         private int tagStart;
         private int tagEnd;
+        private int sizedMarks;
         private final int[] code = new int[TAPE_BYTES];
         private final int[] starts = new int[MOST_MARKS];
         private final int[] ends = new int[MOST_MARKS];
         private final int[] tagTable = new int[MOST_NAMES];
+        private final int[] valueTable = new int[MOST_MARKS * MOST_NAMES];
         private final int[] stack = new int[STACK];
 
         void clear() {
@@ -683,6 +685,7 @@ public final class PerhapsRows {
             length = 0;
             tagStart = 0;
             tagEnd = 0;
+            sizedMarks = 0;
         }
 
         void emit(int step) {
@@ -698,11 +701,15 @@ public final class PerhapsRows {
 
         /** What was emitted since start is the next mark. */
         void addMark(int start) {
-            if (marks < MOST_MARKS) {
-                starts[marks] = start;
-                ends[marks] = length;
-                marks++;
+            if (marks >= MOST_MARKS) {
+                return;
             }
+            starts[marks] = start;
+            ends[marks] = length;
+            for (int i = Math.max(start, 0); i < length; i++) {
+                sizedMarks |= code[i] == SIZE ? 1 << marks : 0;
+            }
+            marks++;
         }
 
         /** What was emitted since start is the tag. */
@@ -711,11 +718,16 @@ public final class PerhapsRows {
             tagEnd = length;
         }
 
-        /** Tags are asked for far more often than rules change. */
-        void fillTags() {
-            for (int name = 0; name < MOST_NAMES; name++) {
+        /** Tags, and values of marks without size, are asked for far more often than rules change. */
+        void fillTables() {
+            for (int name = 0; name < world && name < MOST_NAMES; name++) {
                 int value = tagStart == tagEnd ? name : compute(tagStart, tagEnd, name, tags);
                 tagTable[name] = modulo(value, tags);
+                for (int mark = 0; mark < marks && mark < MOST_MARKS; mark++) {
+                    if ((sizedMarks >> mark & 1) == 0) {
+                        valueTable[mark * MOST_NAMES + name] = compute(starts[mark], ends[mark], name, 0);
+                    }
+                }
             }
         }
 
@@ -728,10 +740,12 @@ public final class PerhapsRows {
         }
 
         int placeOf(int mark, int name, int size) {
-            if (mark < 0 || mark >= marks) {
+            if (mark < 0 || mark >= marks || mark >= MOST_MARKS) {
                 return 0;
             }
-            return modulo(compute(starts[mark], ends[mark], name, size), size);
+            boolean kept = (sizedMarks >> mark & 1) == 0 && name >= 0 && name < world && name < MOST_NAMES;
+            int value = kept ? valueTable[mark * MOST_NAMES + name] : compute(starts[mark], ends[mark], name, size);
+            return modulo(value, size);
         }
 
         /** The places of a name in bits of a size of 64 at most, one bit each. */
@@ -785,10 +799,12 @@ public final class PerhapsRows {
             length = other.length;
             tagStart = other.tagStart;
             tagEnd = other.tagEnd;
+            sizedMarks = other.sizedMarks;
             System.arraycopy(other.code, 0, code, 0, code.length);
             System.arraycopy(other.starts, 0, starts, 0, starts.length);
             System.arraycopy(other.ends, 0, ends, 0, ends.length);
             System.arraycopy(other.tagTable, 0, tagTable, 0, tagTable.length);
+            System.arraycopy(other.valueTable, 0, valueTable, 0, valueTable.length);
         }
     }
 
@@ -866,7 +882,7 @@ public final class PerhapsRows {
             fault = kind;
             faultPlace = kind == STANDS ? NONE : start;
             if (kind == STANDS) {
-                draft.fillTags();
+                draft.fillTables();
             }
             return kind == STANDS;
         }
@@ -1612,10 +1628,6 @@ public final class PerhapsRows {
             }
         }
 
-        private boolean lieWithin(int name, long bits) {
-            return (places[name] & ~bits) == 0;
-        }
-
         void hear(Row row, Rules rules, Tray names) {
             lay(row, rules);
             long bits = row.bits();
@@ -1625,7 +1637,7 @@ public final class PerhapsRows {
                 int name = (int) names.numberAt(i);
                 if (name >= 0 && name < world) {
                     asked.add(name);
-                    known |= lieWithin(name, bits) ? places[name] : 0L;
+                    known |= (places[name] & ~bits) == 0 ? places[name] : 0L;
                 }
             }
         }
@@ -1637,7 +1649,7 @@ public final class PerhapsRows {
         int knownNames(boolean onlyUnasked) {
             int many = 0;
             for (int name = 0; name < world; name++) {
-                if (lieWithin(name, known) && !(onlyUnasked && asked.has(name))) {
+                if ((places[name] & ~known) == 0 && !(onlyUnasked && asked.has(name))) {
                     many++;
                 }
             }
@@ -1661,7 +1673,7 @@ public final class PerhapsRows {
         private int liesWithin(Names within, long bits, int butOne) {
             int lies = 0;
             for (int name = 0; name < world; name++) {
-                if (lieWithin(name, bits) && name != butOne && !within.has(name)) {
+                if ((places[name] & ~bits) == 0 && name != butOne && !within.has(name)) {
                     lies++;
                 }
             }

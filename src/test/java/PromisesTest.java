@@ -189,6 +189,8 @@ public final class PromisesTest {
         faulty("mark world;", 2, 5);
         faulty("mark 12345name;", 2, 10);
         faulty("name;", 2, 0);
+        faulty("xark 1;", 2, 0);
+        faulty("mark siza;", 2, 5);
         faulty("world name;", 2, 6);
         faulty("world (9);", 2, 6);
         faulty("world 9 9;", 2, 8);
@@ -237,6 +239,7 @@ public final class PromisesTest {
         valued("name%(0-1)", Integer.MIN_VALUE, 1, 0);
         valued("1+2*(3+4*(5+6*(7+8*(9+10*(11+12*(name+2*3))))))", 1, 1,
                 1 + 2 * (3 + 4 * (5 + 6 * (7 + 8 * (9 + 10 * (11 + 12 * (1 + 2 * 3)))))));
+        valued(" 1" + "+1".repeat(296), 0, 1, 297);
         PerhapsRows x = told(PLAIN);
         due("value(1,9,8)", 2, x.value(1, 9, 8));
         thrown("value(-1,0,8)", NO_SUCH, () -> x.value(-1, 0, 8));
@@ -254,6 +257,16 @@ public final class PromisesTest {
         due("place(0,17,8)", 1, x.place(0, 17, 8));
         due("place(0,200,128)", 72, x.place(0, 200, 128));
         due("place(0,min,3)", 1, x.place(0, Integer.MIN_VALUE, 3));
+        PerhapsRows y = told("mark size;mark size/2;mark name;mark 5;");
+        due("size modulo itself", 0, y.place(0, 3, 9));
+        due("half the size", 4, y.place(1, 3, 9));
+        due("a mark without name and size", 5, y.place(3, 3, 9));
+        y.make(0, 0, 8, 4, 0);
+        putAll(y, 0, 3);
+        cells(y, 0, 1, 0, 0, 1, 1, 1, 0, 0);
+        due("halve", 4, y.halve(0));
+        cells(y, 0, 1, 1, 0, 1);
+        due("by the size now: 0, 2, 3, 1", false, y.yes(0, 3));
         thrown("place(2,0,0)", NO_SUCH, () -> x.place(2, 0, 0));
         thrown("place(0,0,-1)", ARGUMENT, () -> x.place(0, 0, -1));
         thrown("place(0,0,129)", ARGUMENT, () -> x.place(0, 0, 129));
@@ -353,6 +366,29 @@ public final class PromisesTest {
         x.make(3, 4, 3, 1, 0);
         cells(x, 3, 0, 0, 0);
         thrown("no row", NO_SUCH, () -> x.cell(4, 99));
+        largestRows();
+    }
+
+    private static void largestRows() {
+        PerhapsRows x = told("world 256;mark name;");
+        x.make(0, 3, 16, 1, 1);
+        putAll(x, 0, 0, 1, 2, 255);
+        due("the last place of four layers", 1, x.cell(0, 239));
+        thrown("behind it", INDEX, () -> x.cell(0, 240));
+        due("127 by the fourth layer", true, x.yes(0, 127));
+        x.make(1, 0, 64, 1, 0);
+        putAll(x, 1, 255);
+        due("63 of 64", 1, x.cell(1, 63));
+        due("lying", true, x.lying(1));
+        due("63, 127, 191 of 255: upper()", 1, x.upper());
+        due("63, 127, 191 of 255: lower()", 85, x.lower());
+        due("the last lie", 191, x.lie(1, 2));
+        x.tray(0, 0, 1);
+        due("255 in 8 bits", -1, x.write(0, 0, 255));
+        due("which is no name", 0, x.pour(0, 0));
+        x.tray(0, 1, 1);
+        x.write(0, 0, 255);
+        due("255 in 16 bits is one", 1, x.pour(0, 0));
     }
 
     private static void promise11() {
