@@ -1,0 +1,175 @@
+/**
+ * All that can be seen of an object, a part at a time. Looking may change the object (a tray is read by being poured),
+ * so that each part is looked at on an object of its own; none needs more than the 512 calls that an object has.
+ */
+final class Look extends Checks {
+    static final int RULES = 0;
+    static final int ROW = 1;
+    static final int TRAYS = 5;
+    static final int IMAGES = 6;
+    static final int TAPE = 7;
+    static final int FAULT = 8;
+    static final int FRACTION = 9;
+    static final int[] ALL = {RULES, ROW, ROW + 1, ROW + 2, ROW + 3, TRAYS, IMAGES, TAPE, FAULT, FRACTION};
+
+    private static final int MANY_ROWS = 4;
+    private static final int MANY_TRAYS = 4;
+    private static final int MANY_IMAGES = 3;
+    private static final int NAMES_LOOKED_AT = 20;
+    private static final int[] SOME_NAMES = {-1, 0, 1, 3, 8, 15};
+
+    private final PerhapsRows x;
+    private final StringBuilder seen = new StringBuilder();
+    private boolean threw;
+
+    private Look(PerhapsRows x) {
+        this.x = x;
+    }
+
+    static String at(PerhapsRows x, int part) {
+        Look look = new Look(x);
+        switch (part) {
+            case RULES -> look.rules();
+            case TRAYS -> look.trays();
+            case IMAGES -> look.images();
+            case TAPE -> look.tape();
+            case FAULT -> look.note("fault", x.fault(0), x.fault(1));
+            case FRACTION -> look.note("fraction", x.upper(), x.lower());
+            default -> look.row(part - ROW);
+        }
+        return look.seen.toString();
+    }
+
+    private void note(String what, Object... answers) {
+        seen.append(what).append('=');
+        for (Object answer : answers) {
+            seen.append(answer).append(' ');
+        }
+    }
+
+    /** What the call answers, or the class that it throws. */
+    private Object see(String what, Asking asking) {
+        Object answer;
+        threw = false;
+        try {
+            answer = asking.of(x);
+        } catch (RuntimeException e) {
+            threw = true;
+            answer = e.getClass().getSimpleName();
+        }
+        note(what, answer);
+        return answer;
+    }
+
+    private void rules() {
+        note("rules", x.count(0), x.count(1), x.count(2), x.count(3));
+        for (int m = 0; m < x.count(3); m++) {
+            int mark = m;
+            for (int name : SOME_NAMES) {
+                see("value", y -> y.value(mark, name, 8));
+                see("place", y -> y.place(mark, name, 3));
+            }
+        }
+        for (int n = 0; n < x.count(1); n++) {
+            int name = n;
+            see("tag", y -> y.tag(name));
+        }
+    }
+
+    private void numbersOf(int row) {
+        for (int w = 0; w < 7; w++) {
+            int what = w;
+            see("of" + w, y -> y.of(row, what));
+        }
+    }
+
+    private void cellsOf(int row) {
+        threw = false;
+        for (int p = 0; !threw; p++) {
+            int place = p;
+            see("cell", y -> y.cell(row, place));
+        }
+    }
+
+    private void guestsOf(int row) {
+        int nests = x.of(row, 1);
+        int slots = x.of(row, 3);
+        for (int i = 0; i < nests * slots; i++) {
+            int at = i;
+            see("guest", y -> y.guest(row, at / slots, at % slots));
+        }
+    }
+
+    private void row(int row) {
+        note("there", x.count(4));
+        if ((x.count(4) >> row & 1) == 0) {
+            return;
+        }
+        numbersOf(row);
+        cellsOf(row);
+        if (x.of(row, 0) == 2) {
+            guestsOf(row);
+        }
+        int names = Math.min(x.count(1), NAMES_LOOKED_AT);
+        for (int n = 0; n < names; n++) {
+            int name = n;
+            see("yes", y -> y.yes(row, name));
+            see("put", y -> y.isPut(row, name));
+        }
+        // how many a layer has taken shows when it takes more
+        for (int n = 0; n < names; n++) {
+            int name = n;
+            see("put", y -> y.put(row, name));
+            see("pushes", y -> y.of(row, 6));
+            see("layers", y -> y.of(row, 5));
+        }
+        cellsOf(row);
+    }
+
+    /** Each number of a tray that is a name below 256 is WRONGED by one of two rows that say yes to all. */
+    private void trays() {
+        x.rules(x.count(5));
+        tell(x, "world 256;mark 0;");
+        for (int r = 0; r < 2; r++) {
+            x.make(r, 0, 1, 1, 0);
+            x.put(r, r);
+        }
+        for (int t = 0; t < MANY_TRAYS; t++) {
+            int tray = t;
+            for (int r = 0; r < 2; r++) {
+                int row = r;
+                Object answer = see("wronged", y -> y.wronged(row, tray, NONE));
+                for (int k = 0; answer instanceof Integer many && k < many; k++) {
+                    int at = k;
+                    see("wronged", y -> y.wronged(row, tray, at));
+                }
+            }
+            threw = false;
+            for (int p = 0; !threw; p++) {
+                int place = p;
+                see("write", y -> y.write(tray, place, 0x8796a5b4c3d2e1f0L));
+            }
+        }
+    }
+
+    private void images() {
+        for (int i = 0; i < MANY_IMAGES; i++) {
+            int image = i;
+            see("restore", y -> {
+                y.restore(image);
+                return "done";
+            });
+            note("rules", x.count(0), x.count(1), x.count(2), x.count(3), x.count(4));
+            for (int row = 0; row < MANY_ROWS; row++) {
+                numbersOf(row);
+                cellsOf(row);
+            }
+        }
+    }
+
+    private void tape() {
+        note("tape", x.count(5));
+        note("lines", x.rules(x.count(5)), x.fault(0), x.fault(1), x.count(1), x.count(3));
+        see("value", y -> y.value(0, 5, 8));
+    }
+}
