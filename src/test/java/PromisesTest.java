@@ -1,94 +1,6 @@
-import java.util.NoSuchElementException;
-
 /** For each promise of the document: ordinary inputs, the edges that it names, and wrong inputs, worked out by hand. */
-public final class PromisesTest {
-    private static final int NONE = PerhapsRows.NONE;
-    private static final Class<?> NO_SUCH = NoSuchElementException.class;
-    private static final Class<?> STATE = IllegalStateException.class;
-    private static final Class<?> ARGUMENT = IllegalArgumentException.class;
-    private static final Class<?> INDEX = IndexOutOfBoundsException.class;
-
-    /** Name n has places n and n/4, and the tag n/2: in 8 places 0: 0; 1: 1 0; 5: 5 1; 8: 0 2; 9: 1 2; 10: 2. */
-    private static final String PLAIN = "world 16;tags 8;mark name;mark name/4;tag name/2;";
-
-    private static int checks = 0;
-    private static int wrong = 0;
-    private static int promise = 0;
-
-    interface Call {
-        void make();
-    }
-
-    private static void due(String told, long want, long got) {
-        checks++;
-        if (got != want) {
-            wrong++;
-            System.out.println("promise " + promise + ": " + told + " answered " + got + ", due is " + want);
-        }
-    }
-
-    private static void due(String told, boolean want, boolean got) {
-        due(told, want ? 1 : 0, got ? 1 : 0);
-    }
-
-    /** The class must be the very one: ArrayIndexOutOfBoundsException would be the machine's. */
-    private static void thrown(String told, Class<?> want, Call call) {
-        checks++;
-        Class<?> got = null;
-        try {
-            call.make();
-        } catch (RuntimeException e) {
-            got = e.getClass();
-        }
-        if (got != want) {
-            wrong++;
-            System.out.println("promise " + promise + ": " + told + " threw " + got + ", due is " + want);
-        }
-    }
-
-    private static void feedText(PerhapsRows x, String text) {
-        for (int at = 0; at < text.length(); at += 20) {
-            int[] v = new int[5];
-            for (int i = 0; i < 20; i++) {
-                v[i / 4] = v[i / 4] << 8 | (at + i < text.length() ? text.charAt(at + i) : ' ');
-            }
-            x.feed(v[0], v[1], v[2], v[3], v[4]);
-        }
-    }
-
-    private static int tell(PerhapsRows x, String text) {
-        feedText(x, text);
-        return x.rules(text.length());
-    }
-
-    private static PerhapsRows told(String text) {
-        PerhapsRows x = new PerhapsRows();
-        int lines = tell(x, text);
-        if (lines < 0) {
-            due("rules of " + text, 0, lines);
-        }
-        return x;
-    }
-
-    private static void putAll(PerhapsRows x, int row, int... names) {
-        for (int name : names) {
-            due("put(" + row + "," + name + ")", 0, x.put(row, name));
-        }
-    }
-
-    private static void fill(PerhapsRows x, int tray, long... numbers) {
-        x.tray(tray, 3, numbers.length);
-        for (int i = 0; i < numbers.length; i++) {
-            x.write(tray, i, numbers[i]);
-        }
-    }
-
-    private static void cells(PerhapsRows x, int row, int... want) {
-        for (int i = 0; i < want.length; i++) {
-            due("cell(" + row + "," + i + ")", want[i], x.cell(row, i));
-        }
-        thrown("cell(" + row + "," + want.length + ")", INDEX, () -> x.cell(row, want.length));
-        thrown("cell(" + row + ",-1)", INDEX, () -> x.cell(row, -1));
+public final class PromisesTest extends Checks {
+    private PromisesTest() {
     }
 
     // ------------------------------------------------------------ 1 to 7
@@ -1059,14 +971,12 @@ public final class PromisesTest {
             PromisesTest::promise29, PromisesTest::promise30, PromisesTest::promise31, PromisesTest::promise32,
             PromisesTest::promise33, PromisesTest::promise34, PromisesTest::promise35and36, null,
             PromisesTest::promise37};
-        for (promise = 1; promise < all.length; promise++) {
+        for (int promise = 1; promise < all.length; promise++) {
             if (all[promise] != null) {
+                about("promise " + promise);
                 all[promise].make();
             }
         }
-        System.out.println(checks + " checks of the promises, " + wrong + " wrong");
-        if (wrong != 0) {
-            System.exit(1);
-        }
+        report("the promises");
     }
 }
