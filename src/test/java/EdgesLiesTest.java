@@ -240,8 +240,10 @@ public final class EdgesLiesTest extends Checks {
         onlyBits((x, row) -> x.cascade(row, 0, 1, 0));
         noOtherWhat(2, (x, what) -> x.cascade(0, 0, 1, what));
         for (long number : NO_NAMES) {
-            edge("a number of the list that is no name: " + number,
-                    () -> refused(ARGUMENT, () -> listed(4, number), x -> x.cascade(0, 0, 1, 0)));
+            edge("a number of the list that is no name: " + number, () -> {
+                refused(ARGUMENT, () -> listed(4, number), x -> x.cascade(0, 0, 1, 0));
+                refused(ARGUMENT, () -> listed(number, 4), x -> x.cascade(0, 0, 1, 0));
+            });
         }
         for (long size : new long[] {0, 65, -1, TWO_TO_32 + 8, Long.MIN_VALUE, Long.MAX_VALUE}) {
             edge("a size: " + size, () -> refused(ARGUMENT, () -> sized(size), x -> x.cascade(0, 0, 1, 0)));
@@ -305,6 +307,22 @@ public final class EdgesLiesTest extends Checks {
         long[] more = sizes.clone();
         more[39] = 64;
         cascaded("40 levels", "40 40 103", these(0), these(63), more);
+        edge("a second question knows nothing of the first", () -> {
+            PerhapsRows x = bits(64, 7, 0, 5);
+            fill(x, 0, 4, 12, 13);
+            fill(x, 1, 4, 2, 2, 16);
+            fill(x, 2, 1, 2);
+            fill(x, 3, 4, 16);
+            for (int i = 0; i < 3; i++) {
+                due("levels", 4, x.cascade(0, 0, 1, 0));
+                due("took", 10, x.cascade(0, 0, 1, 1));
+                due("sizes", 24, x.cascade(0, 0, 1, 2));
+                // 0 1 of 4: 1 is left; 1 of 16: nobody
+                due("levels", 2, x.cascade(0, 2, 3, 0));
+                due("took", 3, x.cascade(0, 2, 3, 1));
+                due("sizes", 20, x.cascade(0, 2, 3, 2));
+            }
+        });
         edge("the ROW's own SIZE is none of it, its MARKS are", () -> {
             PerhapsRows x = told(PLAIN);
             x.make(0, 0, 1, 1, 0);
@@ -327,7 +345,10 @@ public final class EdgesLiesTest extends Checks {
         onlyBits((x, row) -> x.learn(row, 0, 0));
         noOtherWhat(2, (x, what) -> x.learn(0, 0, what));
         for (long number : NO_NAMES) {
-            edge("a number that is no name: " + number, () -> refused(ARGUMENT, () -> listed(4, number), x -> x.learn(0, 0, 0)));
+            edge("a number that is no name: " + number, () -> {
+                refused(ARGUMENT, () -> listed(4, number), x -> x.learn(0, 0, 0));
+                refused(ARGUMENT, () -> listed(number, 4), x -> x.learn(0, 0, 0));
+            });
         }
         edge("a ROW comes ahead of a TRAY that is MISSING", () -> refused(NO_SUCH, x -> x.learn(4, 3, 9)));
         edge("a TRAY comes ahead of no BITS", () -> refused(NO_SUCH, x -> x.learn(1, 4, 9)));
@@ -342,6 +363,17 @@ public final class EdgesLiesTest extends Checks {
         learned("told twice", "2 2 1", 1, 1, 1);
         learned("a no teaches nothing", "2 1 0", 4, 5, 6);
         learned("all PLACES that are 1", "3 3 1", 5, 1);
+        edge("a second question knows nothing of the first", () -> {
+            PerhapsRows x = listed(5);
+            fill(x, 1, 1);
+            for (int i = 0; i < 2; i++) {
+                due("KNOWN by 5", 1, x.learn(0, 0, 1));
+                due("not asked", 0, x.learn(0, 0, 2));
+                due("KNOWN by 1", 2, x.learn(0, 1, 1));
+                due("not asked", 1, x.learn(0, 1, 2));
+                due("KNOWN by nobody", 0, x.learn(0, 2, 1));
+            }
+        });
         edge("64 PLACES by 40 who were asked, the last one, too", () -> {
             PerhapsRows x = allArePut(64, 64);
             x.tray(0, 1, 40);
@@ -375,7 +407,10 @@ public final class EdgesLiesTest extends Checks {
         noTray("", (x, tray) -> x.ask(0, tray));
         onlyBits((x, row) -> x.ask(row, 0));
         for (long number : NO_NAMES) {
-            edge("a number that is no name: " + number, () -> refused(ARGUMENT, () -> listed(4, number), x -> x.ask(0, 0)));
+            edge("a number that is no name: " + number, () -> {
+                refused(ARGUMENT, () -> listed(4, number), x -> x.ask(0, 0));
+                refused(ARGUMENT, () -> listed(number, 4), x -> x.ask(0, 0));
+            });
         }
         edge("a ROW comes ahead of a TRAY that is MISSING", () -> refused(NO_SUCH, x -> x.ask(4, 3)));
         edge("a TRAY comes ahead of no BITS", () -> refused(NO_SUCH, x -> x.ask(1, 4)));
@@ -401,6 +436,13 @@ public final class EdgesLiesTest extends Checks {
             due("ask(0,0)", 0, x.ask(0, 0));
             fill(x, 0, 0, 1);
             due("ask(0,0)", 2, x.ask(0, 0));
+        });
+        edge("a second question knows nothing of the first", () -> {
+            PerhapsRows x = listed(1);
+            for (int i = 0; i < 2; i++) {
+                due("ask(0,0)", 11, x.ask(0, 0));
+                due("ask(0,2)", 1, x.ask(0, 2));
+            }
         });
         edge("NONE: all were asked", () -> {
             PerhapsRows x = bits(3, 1, 1);
@@ -481,6 +523,11 @@ public final class EdgesLiesTest extends Checks {
         edge("who is PUT is enough for itself", () -> stays(1, Houses::full, x -> x.blame(0, 5)));
         edge("the first name, of one PLACE", () -> stays(1, Houses::full, x -> x.blame(0, 0)));
         edge("the last name", () -> due("blame(0,255)", 1, bits(256, 64, 63).blame(0, 255)));
+        edge("by the first name alone, or by the last one", () -> {
+            due("blame(0,0)", 1, bits(256, 64, 0).blame(0, 0));
+            due("blame(0,64)", 1, bits(256, 64, 0).blame(0, 64));
+            due("blame(0,63)", 1, bits(256, 64, 255).blame(0, 63));
+        });
         edge("6 MARKS, each of another one who is PUT", () -> {
             PerhapsRows x = sixBits();
             putAll(x, 0, 1, 2, 4, 8, 16);
@@ -570,6 +617,7 @@ public final class EdgesLiesTest extends Checks {
             chosen("the size " + size, size + 4, size + " 1 0", () -> bits(world, 1, 0));
             chosen("the size " + size + " with all money", 999, size + " 1 0", () -> bits(world, 1, 0));
         }
+        chosen("the last of 64 PLACES", 68, "64 1 0", () -> bits(64, 1, 0));
         chosen("no size above 64", 999, "40 1 1", () -> bits(80, 1, 0));
         chosen("nobody is PUT: no LIES, the least cost", 999, "8 1 0", () -> bits(64, 1));
         chosen("all are PUT: no LIES, the least cost", 999, "8 1 0", () -> allArePut(64, 1));

@@ -416,6 +416,18 @@ public final class EdgesRowsTest extends Checks {
             putAll(x, 0, 0, 2, 4, 6);
             due("yes(0,7)", true, x.yes(0, 7));
         });
+        // all have one TAG, and (first, second) are a name's nests
+        String likeTags = "mark name%8;mark name/8;tag 1;";
+        edge("NESTS: in that of MARK 0 or that of MARK 1, and in no other", () -> {
+            PerhapsRows x = told(likeTags);
+            x.make(0, NESTS, 8, 2, 1);
+            putAll(x, 0, at(3, 5));
+            due("MARK 0", true, x.yes(0, at(3, 6)));
+            due("MARK 1", true, x.yes(0, at(6, 3)));
+            due("where it could sit, too", false, x.yes(0, at(4, 5)));
+            due("a nest ahead", false, x.yes(0, at(2, 2)));
+            due("a nest behind", false, x.yes(0, at(4, 4)));
+        });
         layersAndSolvedSay();
     }
 
@@ -691,6 +703,30 @@ public final class EdgesRowsTest extends Checks {
             putAll(x, 0, at(0, 0));
             nestsHave(x, at(0, 0), NONE, NONE, at(3, 0));
         });
+        edge("guests of nests that aren't come to stay", () -> {
+            PerhapsRows x = homes(4, 1);
+            putAll(x, 0, at(0, 0), at(1, 3));
+            due("put", NONE, x.put(0, at(4, 4)));
+            nestsHave(x, at(0, 0), at(1, 3), NONE, NONE);
+        });
+        edge("a nest that was come to first isn't come to by another way", () -> {
+            PerhapsRows x = homes(4, 2);
+            putAll(x, 0, at(0, 1), at(0, 2), at(1, 0), at(1, 1), at(2, 3), at(2, 2));
+            due("put", 0, x.put(0, at(4, 1)));
+            nestsHave(x, at(0, 1), at(4, 1), at(1, 0), at(1, 1), at(0, 2), at(2, 2), at(2, 3), NONE);
+            due("PUSHES", 2, x.of(0, 6));
+        });
+        edge("one PUT from nest to nest behind the other", () -> {
+            PerhapsRows x = homes(8, 1);
+            putAll(x, 0, at(0, 2));
+            for (int i = 0; i < 20; i++) {
+                int homeOfOne = i % 2 == 0 ? at(0, 0) : at(2, 2);
+                putAll(x, 0, homeOfOne);
+                due("PUSHES", 1, x.of(0, 6));
+                due("where it went", at(0, 2), x.guest(0, i % 2 == 0 ? 2 : 0, 0));
+                x.take(0, homeOfOne);
+            }
+        });
         pushesHaveEnds();
     }
 
@@ -786,6 +822,29 @@ public final class EdgesRowsTest extends Checks {
             PerhapsRows x = Houses.full();
             due("take(2,9)", true, x.take(2, 9));
             due("guest(2,2,0)", NONE, x.guest(2, 2, 0));
+        });
+        edge("the guests of the first and of the last slot of all", () -> {
+            PerhapsRows x = told("world 64;mark name/4;mark name/4;");
+            x.make(0, NESTS, 16, 2, 4);
+            for (int name = 0; name < 64; name++) {
+                x.put(0, name);
+            }
+            due("take(0,0)", true, x.take(0, 0));
+            due("take(0,63)", true, x.take(0, 63));
+            due("guest(0,0,0)", NONE, x.guest(0, 0, 0));
+            due("guest(0,0,1)", 1, x.guest(0, 0, 1));
+            due("guest(0,15,3)", NONE, x.guest(0, 15, 3));
+            due("guest(0,15,2)", 62, x.guest(0, 15, 2));
+        });
+        edge("names of the largest WORLD", () -> {
+            for (int name : new int[] {0, 63, 64, 127, 128, 191, 192, 255}) {
+                PerhapsRows x = crowd();
+                x.make(0, COUNTS, 1, 1, 0);
+                putAll(x, 0, name, 77);
+                due("take(0," + name + ")", true, x.take(0, name));
+                due("isPut(0," + name + ")", false, x.isPut(0, name));
+                due("isPut(0,77)", true, x.isPut(0, 77));
+            }
         });
         takenOfCounts();
     }
@@ -1075,6 +1134,17 @@ public final class EdgesRowsTest extends Checks {
             due("guest(0,1,0)", 2, stuck.build().guest(0, 1, 0));
             stays(NONE, stuck, x -> x.grow(0));
         });
+        edge("NONE: guests that came into another's slot are where they were", () -> {
+            House house = () -> {
+                PerhapsRows x = told(narrow);
+                x.make(0, NESTS, 2, 2, 1);
+                x.put(0, 2);
+                x.put(0, 1);
+                return x;
+            };
+            due("guest(0,0,0)", 2, house.build().guest(0, 0, 0));
+            stays(NONE, house, x -> x.grow(0));
+        });
         edge("behind NONE it can be when there is room", () -> {
             PerhapsRows x = stuck.build();
             x.grow(0);
@@ -1115,7 +1185,10 @@ public final class EdgesRowsTest extends Checks {
         }
         edge("the TRAY is MISSING", () -> refused(STATE, Houses::solved, x -> x.solve(0, 3)));
         for (long number : new long[] {-1, 16, 256, TWO_TO_32, TWO_TO_32 + 3, -TWO_TO_32, Long.MIN_VALUE, Long.MAX_VALUE}) {
-            edge("a number that is no name: " + number, () -> refused(ARGUMENT, () -> solvedWith(1, number), x -> x.solve(0, 0)));
+            edge("a number that is no name: " + number, () -> {
+                refused(ARGUMENT, () -> solvedWith(1, number), x -> x.solve(0, 0));
+                refused(ARGUMENT, () -> solvedWith(number, 1), x -> x.solve(0, 0));
+            });
         }
         edge("two alike", () -> refused(ARGUMENT, () -> solvedWith(4, 4), x -> x.solve(0, 0)));
         edge("two alike, the first and the last of 40 places", () -> refused(ARGUMENT, EdgesRowsTest::endsAlike, x -> x.solve(0, 0)));

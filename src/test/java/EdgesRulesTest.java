@@ -173,6 +173,14 @@ public final class EdgesRulesTest extends Checks {
         });
         edge("TRAYS, the FRACTION and IMAGES stay", () -> unchanged(Houses::full, x -> x.rules(20), Look.TRAYS,
                 Look.FRACTION, Look.IMAGES));
+        edge("TEXTS of 600 bytes, one behind the other", () -> {
+            PerhapsRows x = Houses.empty();
+            for (int i = 1; i < 10; i++) {
+                due("rules(600)", 1, tell(x, "mark  " + i + "+1".repeat(296) + ";"));
+                due("value(0,0,1)", 296 + i, x.value(0, 0, 1));
+                due("place(0,0,100)", (296 + i) % 100, x.place(0, 0, 100));
+            }
+        });
         faultsOfRules();
     }
 
@@ -191,6 +199,15 @@ public final class EdgesRulesTest extends Checks {
             PerhapsRows x = fullWithTape("$");
             x.rules(1);
             due("count(5)", 0, x.count(5));
+        });
+        edge("TEXTS that stop amid an expression leave nothing to the next one", () -> {
+            PerhapsRows x = Houses.empty();
+            for (int i = 0; i < 10; i++) {
+                due("rules", -12, tell(x, "mark 1+2*((((((3+4*"));
+                due("rules", -11, tell(x, "tag 1-(((2*(3%$"));
+            }
+            due("rules", 1, tell(x, "mark 1+2*((((((3+4*name))))));"));
+            due("value(0,5,1)", 47, x.value(0, 5, 1));
         });
         edge("LINES ahead of a FAULT change nothing", () -> {
             String text = "world 9;tags 9;tag 5;mark 5;$";
@@ -286,6 +303,8 @@ public final class EdgesRulesTest extends Checks {
         faulty("a word that is none of a line", "name;", 2, 0);
         faulty("a word that is longer than one", "marks 1;", 2, 0);
         faulty("a word that is shorter than one", "mar 1;", 2, 0);
+        faulty("a word with another first letter", "zark 1;", 2, 0);
+        faulty("a word with another last letter", "worls 9;", 2, 0);
         faulty("a word goes as long as it can", "markname;", 2, 0);
         faulty("a word ends at a capital letter, but comes ahead of it", "marK 1;", 2, 0);
         faulty("an operand that is another word", "mark nam;", 2, 5);
@@ -403,6 +422,8 @@ public final class EdgesRulesTest extends Checks {
         valued("7*3%4*2", 0, 1, 2);
         valued("2+7%4-9/4*3", 0, 1, -1);
         valued("1+2*(3+4*(5+6*(7+8*(9+10*(name+12)))))", 11, 1, 1 + 2 * (3 + 4 * (5 + 6 * (7 + 8 * (9 + 10 * 23)))));
+        valued("1+2*(3+4*(5+6*(7+8*(9+10*(11+12*(13+14*name))))))", 1, 1,
+                1 + 2 * (3 + 4 * (5 + 6 * (7 + 8 * (9 + 10 * (11 + 12 * 27))))));
         valued("name", MIN, 1, MIN);
         valued("name", MAX, 1, MAX);
         valued("name", 1000, 1, 1000);
@@ -482,6 +503,13 @@ public final class EdgesRulesTest extends Checks {
         placed("the least int", 0, MIN, 128, 0);
         placed("the greatest int", 0, MAX, 128, 127);
         placed("a VALUE that wraps", 3, MAX, 8, 5);
+        edge("a MARK 0 that is size and no more, or starts with it", () -> {
+            PerhapsRows x = told("mark size/2;mark size;mark name;");
+            due("place(0,3,8)", 4, x.place(0, 3, 8));
+            due("place(0,3,9)", 4, x.place(0, 3, 9));
+            due("place(1,3,9)", 0, x.place(1, 3, 9));
+            due("place(2,3,9)", 3, x.place(2, 3, 9));
+        });
         edge("no such MARK: -1", () -> refused(NO_SUCH, x -> x.place(-1, 0, 8)));
         edge("no such MARK: one above", () -> refused(NO_SUCH, x -> x.place(4, 0, 8)));
         edge("no such MARK: there are none", () -> refused(NO_SUCH, Houses::empty, x -> x.place(0, 0, 8)));

@@ -16,6 +16,7 @@ final class Look extends Checks {
     private static final int MANY_TRAYS = 4;
     private static final int MANY_IMAGES = 3;
     private static final int NAMES_LOOKED_AT = 20;
+    private static final int MOST_PLACES = 300;
     private static final int[] SOME_NAMES = {-1, 0, 1, 3, 8, 15};
 
     private final PerhapsRows x;
@@ -85,7 +86,7 @@ final class Look extends Checks {
 
     private void cellsOf(int row) {
         threw = false;
-        for (int p = 0; !threw; p++) {
+        for (int p = 0; !threw && p < MOST_PLACES; p++) {
             int place = p;
             see("cell", y -> y.cell(row, place));
         }
@@ -145,7 +146,7 @@ final class Look extends Checks {
                 }
             }
             threw = false;
-            for (int p = 0; !threw; p++) {
+            for (int p = 0; !threw && p < MOST_PLACES; p++) {
                 int place = p;
                 see("write", y -> y.write(tray, place, 0x8796a5b4c3d2e1f0L));
             }
