@@ -84,7 +84,7 @@ public final class EdgesLiesTest extends Checks {
     }
 
     private static void fractions() {
-        about("promises 20 to 22");
+        about("promise 20");
         noRow((x, row) -> x.lying(row));
         fraction("nobody is PUT: 0 over 16 in least numbers", 0, 1, () -> bits(16, 8));
         fraction("no LIES: 0 over 15 in least numbers", 0, 1, () -> bits(16, 16, 3));
@@ -108,26 +108,45 @@ public final class EdgesLiesTest extends Checks {
             due("lower()", 0, x.lower());
             due("upper()", 0, x.upper());
         });
-        edge("the latest FRACTION", () -> {
-            PerhapsRows x = Houses.full();
-            due("upper()", 1, x.upper());
-            due("lower()", 14, x.lower());
-            x.lying(1);
-            // of 13 that aren't PUT 0 (0), 2 (2 0), 8 (0 2) and 10 (2) are LIES
-            due("upper()", 4, x.upper());
-            due("lower()", 13, x.lower());
-        });
-        edge("the FRACTION is the answers' alone: what is PUT later changes none", () -> {
-            PerhapsRows x = Houses.full();
-            x.put(0, 0);
-            due("lower()", 14, x.lower());
-        });
-        edge("0 without any", () -> {
-            due("upper()", 0, told(PLAIN).upper());
-            due("lower()", 0, told(PLAIN).lower());
-        });
         edge("lying changes nothing but the FRACTION", () -> unchanged(Houses::full, x -> x.lying(1), Look.RULES, Look.ROW,
                 Look.ROW + 1, Look.ROW + 2, Look.ROW + 3, Look.TRAYS, Look.IMAGES, Look.TAPE, Look.FAULT));
+    }
+
+    private static void numbersOfFractions() {
+        about("promise 21");
+        edge("0 without any", () -> stays(0, Houses::empty, x -> x.upper()));
+        edge("of the latest FRACTION", () -> {
+            PerhapsRows x = Houses.full();
+            due("0 of 14", 1, x.upper());
+            x.lying(1);
+            due("0 2 8 10 of 13", 4, x.upper());
+        });
+        edge("0 of 0 over 0", () -> {
+            PerhapsRows x = bits(2, 1, 0);
+            x.lying(0);
+            due("1 over 1", 1, x.upper());
+            x.put(0, 1);
+            x.lying(0);
+            due("0 over 0", 0, x.upper());
+        });
+        edge("what is PUT later changes nothing", () -> unchanged(Houses::full, x -> x.put(0, 0), Look.FRACTION));
+        about("promise 22");
+        edge("0 without any", () -> stays(0, Houses::empty, x -> x.lower()));
+        edge("of the latest FRACTION", () -> {
+            PerhapsRows x = Houses.full();
+            due("0 of 14", 14, x.lower());
+            x.lying(1);
+            due("0 2 8 10 of 13", 13, x.lower());
+        });
+        edge("0 of 0 over 0", () -> {
+            PerhapsRows x = bits(2, 1, 0);
+            x.lying(0);
+            due("1 over 1", 1, x.lower());
+            x.put(0, 1);
+            x.lying(0);
+            due("0 over 0", 0, x.lower());
+        });
+        edge("other rules change nothing", () -> unchanged(Houses::full, x -> x.rules(0), Look.FRACTION));
     }
 
     // ------------------------------------------------------------ 23 to 25
@@ -649,6 +668,7 @@ public final class EdgesLiesTest extends Checks {
 
     public static void main(String[] args) {
         fractions();
+        numbersOfFractions();
         lies();
         wrongs();
         worseOnes();

@@ -936,6 +936,10 @@ public final class EdgesRowsTest extends Checks {
             edge("the other stays: " + KINDS[kind], () -> unchanged(() -> pair(kind, 8, 2, kind, 8, 2),
                     x -> x.join(0, 1), Look.ROW + 1, Look.RULES, Look.TAPE));
         }
+        edge("a ROW that is none comes ahead of a KIND that can't be", () -> {
+            refused(NO_SUCH, x -> x.join(2, 4));
+            refused(NO_SUCH, x -> x.join(4, 2));
+        });
         edge("a ROW that isn't there comes ahead of both being one", () -> refused(NO_SUCH, Houses::brim, x -> x.join(3, 3)));
         joined();
     }

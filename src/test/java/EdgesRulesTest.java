@@ -503,6 +503,8 @@ public final class EdgesRulesTest extends Checks {
         placed("the least int", 0, MIN, 128, 0);
         placed("the greatest int", 0, MAX, 128, 127);
         placed("a VALUE that wraps", 3, MAX, 8, 5);
+        placed("any int as name: WORLD", 3, 16, 7, 6);
+        placed("any int as name: -1", 3, -1, 7, 4);
         edge("a MARK 0 that is size and no more, or starts with it", () -> {
             PerhapsRows x = told("mark size/2;mark size;mark name;");
             due("place(0,3,8)", 4, x.place(0, 3, 8));
