@@ -64,14 +64,16 @@ final class Look extends Checks {
 
     private void rules() {
         note("rules", x.count(0), x.count(1), x.count(2), x.count(3));
-        for (int m = 0; m < x.count(3); m++) {
+        int marks = x.count(3);
+        for (int m = 0; m < marks; m++) {
             int mark = m;
             for (int name : SOME_NAMES) {
                 see("value", y -> y.value(mark, name, 8));
                 see("place", y -> y.place(mark, name, 3));
             }
         }
-        for (int n = 0; n < x.count(1); n++) {
+        int world = x.count(1);
+        for (int n = 0; n < world; n++) {
             int name = n;
             see("tag", y -> y.tag(name));
         }
