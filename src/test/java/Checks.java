@@ -12,6 +12,9 @@ class Checks {
     static final int MIN = Integer.MIN_VALUE;
     static final int MAX = Integer.MAX_VALUE;
     static final long TWO_TO_32 = 1L << 32;
+    static final String[] KINDS = {"BITS", "COUNTS", "NESTS", "LAYERS", "SOLVED"};
+    /** There are four ROWS, and four TRAYS. */
+    static final int[] NONE_OF_FOUR = {-1, 4, MIN, MAX};
 
     /** Name n has places n and n/4, and the tag n/2: in 8 places 0: 0; 1: 1 0; 5: 5 1; 8: 0 2; 9: 1 2; 10: 2. */
     static final String PLAIN = "world 16;tags 8;mark name;mark name/4;tag name/2;";
@@ -31,6 +34,10 @@ class Checks {
 
     interface Asking {
         Object of(PerhapsRows x);
+    }
+
+    interface OnIndex {
+        void of(PerhapsRows x, int index);
     }
 
     /** Makes an object in a state of its own: the same one each time. */
@@ -82,6 +89,15 @@ class Checks {
 
     static void refused(Class<?> want, Deed deed) {
         refused(want, Houses::full, deed);
+    }
+
+    /** Edges of a call with a row that can't be, or isn't there. */
+    static void noRow(OnIndex call) {
+        for (int row : NONE_OF_FOUR) {
+            edge("no such ROW: " + row, () -> refused(NO_SUCH, x -> call.of(x, row)));
+        }
+        edge("the ROW isn't there", () -> refused(NO_SUCH, Houses::brim, x -> call.of(x, 3)));
+        edge("no ROW is there", () -> refused(NO_SUCH, Houses::empty, x -> call.of(x, 0)));
     }
 
     /** The call answers that, and nothing that can be seen is changed by it. */

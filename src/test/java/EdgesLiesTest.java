@@ -1,23 +1,9 @@
 /** The boundaries that the document names in LIES and in promises 20 to 31, each in an edge of its own. */
 public final class EdgesLiesTest extends Checks {
-    private static final int[] NONE_OF_FOUR = {-1, 4, MIN, MAX};
-    private static final String[] KINDS = {"BITS", "COUNTS", "NESTS", "LAYERS", "SOLVED"};
     private static final long[] NO_NAMES =
             {-1, 16, 256, TWO_TO_32, TWO_TO_32 + 3, -TWO_TO_32, Long.MIN_VALUE, Long.MAX_VALUE};
 
     private EdgesLiesTest() {
-    }
-
-    interface OnIndex {
-        void of(PerhapsRows x, int index);
-    }
-
-    private static void noRow(OnIndex call) {
-        for (int row : NONE_OF_FOUR) {
-            edge("no such ROW: " + row, () -> refused(NO_SUCH, x -> call.of(x, row)));
-        }
-        edge("the ROW isn't there", () -> refused(NO_SUCH, Houses::brim, x -> call.of(x, 3)));
-        edge("no ROW is there", () -> refused(NO_SUCH, Houses::empty, x -> call.of(x, 0)));
     }
 
     private static void noTray(String which, OnIndex call) {

@@ -5,8 +5,6 @@ public final class EdgesRowsTest extends Checks {
     private static final int NESTS = 2;
     private static final int LAYERS = 3;
     private static final int SOLVED = 4;
-    private static final String[] KINDS = {"BITS", "COUNTS", "NESTS", "LAYERS", "SOLVED"};
-    private static final int[] NO_ROWS = {-1, 4, MIN, MAX};
     private static final int[] NO_NAMES = {-1, 16, MIN, MAX};
 
     private EdgesRowsTest() {
@@ -27,20 +25,7 @@ public final class EdgesRowsTest extends Checks {
         return kind == NESTS || kind == LAYERS ? 1 : 0;
     }
 
-    interface OnRow {
-        void of(PerhapsRows x, int row);
-    }
-
-    /** A call with a row that can't be, or isn't there (row 3 of that house). */
-    private static void noRow(OnRow call) {
-        for (int row : NO_ROWS) {
-            edge("no such ROW: " + row, () -> refused(NO_SUCH, x -> call.of(x, row)));
-        }
-        edge("the ROW isn't there", () -> refused(NO_SUCH, Houses::brim, x -> call.of(x, 3)));
-        edge("no ROW is there", () -> refused(NO_SUCH, Houses::empty, x -> call.of(x, 0)));
-    }
-
-    private static void noName(OnRow call) {
+    private static void noName(OnIndex call) {
         for (int name : NO_NAMES) {
             edge("no such name: " + name, () -> refused(ARGUMENT, x -> call.of(x, name)));
         }
@@ -136,7 +121,7 @@ public final class EdgesRowsTest extends Checks {
 
     private static void making() {
         about("promise 8");
-        for (int row : NO_ROWS) {
+        for (int row : NONE_OF_FOUR) {
             edge("no such ROW: " + row, () -> refused(NO_SUCH, x -> x.make(row, BITS, 8, 1, 0)));
         }
         edge("ROWS 0 to 3", () -> {
@@ -1181,7 +1166,7 @@ public final class EdgesRowsTest extends Checks {
     private static void solving() {
         about("promise 19");
         noRow((x, row) -> x.solve(row, 0));
-        for (int tray : NO_ROWS) {
+        for (int tray : NONE_OF_FOUR) {
             edge("no such TRAY: " + tray, () -> refused(NO_SUCH, Houses::solved, x -> x.solve(0, tray)));
         }
         for (int row : new int[] {0, 1, 2, 3}) {

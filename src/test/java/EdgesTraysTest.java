@@ -1,6 +1,5 @@
 /** The boundaries that the document names in TRAYS, IMAGES and in promises 32 to 37, each in an edge of its own. */
 public final class EdgesTraysTest extends Checks {
-    private static final int[] NONE_OF_FOUR = {-1, 4, MIN, MAX};
     private static final int[] NONE_OF_THREE = {-1, 3, 4, 32, MIN, MAX};
 
     private EdgesTraysTest() {
@@ -141,10 +140,7 @@ public final class EdgesTraysTest extends Checks {
 
     private static void pouring() {
         about("promise 34");
-        for (int row : NONE_OF_FOUR) {
-            edge("no such ROW: " + row, () -> refused(NO_SUCH, x -> x.pour(row, 0)));
-        }
-        edge("the ROW isn't there", () -> refused(NO_SUCH, Houses::brim, x -> x.pour(3, 0)));
+        noRow((x, row) -> x.pour(row, 0));
         for (int tray : NONE_OF_FOUR) {
             edge("no such TRAY: " + tray, () -> refused(NO_SUCH, x -> x.pour(0, tray)));
         }
