@@ -1,3 +1,4 @@
+import java.util.Arrays;
 import java.util.HashSet;
 import java.util.NoSuchElementException;
 import java.util.Set;
@@ -116,8 +117,14 @@ class Checks {
             } catch (RuntimeException e) {
                 // whether it throws is another check's question
             }
-            due("what is seen of part " + part, before, Look.at(x, part));
+            String after = Look.at(x, part);
+            int unlike = Arrays.mismatch(before.toCharArray(), after.toCharArray());
+            due("what is seen of part " + part, around(before, unlike), around(after, unlike));
         }
+    }
+
+    private static String around(String seen, int at) {
+        return seen.substring(Math.max(at - 60, 0), Math.max(Math.min(at + 60, seen.length()), 0));
     }
 
     static void feedText(PerhapsRows x, String text) {

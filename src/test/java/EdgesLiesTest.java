@@ -94,8 +94,8 @@ public final class EdgesLiesTest extends Checks {
             due("lower()", 0, x.lower());
             due("upper()", 0, x.upper());
         });
-        edge("lying changes nothing but the FRACTION", () -> unchanged(Houses::full, x -> x.lying(1), Look.RULES, Look.ROW,
-                Look.ROW + 1, Look.ROW + 2, Look.ROW + 3, Look.TRAYS, Look.IMAGES, Look.TAPE, Look.FAULT));
+        edge("lying changes nothing but the FRACTION", () -> unchanged(Houses::full, x -> x.lying(1),
+                Look.allBut(Look.FRACTION)));
     }
 
     private static void numbersOfFractions() {
@@ -468,6 +468,15 @@ public final class EdgesLiesTest extends Checks {
 
     // ------------------------------------------------------------ 29 to 31
 
+    /** In 8 places a name is at itself, in 4 one further: 1 was put at 1, and is asked for at 2. */
+    private static PerhapsRows halvedElsewhere() {
+        PerhapsRows x = told("world 8;mark name+(8-size)/4;");
+        x.make(0, 0, 8, 1, 0);
+        putAll(x, 0, 1);
+        due("halve(0)", 4, x.halve(0));
+        return x;
+    }
+
     private static void worsts() {
         about("promise 29");
         noRow((x, row) -> x.worst(row, 0));
@@ -512,6 +521,25 @@ public final class EdgesLiesTest extends Checks {
             due("worst(0,1)", 6, x.worst(0, 1));
         });
         edge("nobody is PUT in the largest WORLD, size 1", () -> due("worst(0,1)", 255, bits(256, 1).worst(0, 1)));
+        edge("a HALVED row goes by the bits that it has", () -> {
+            PerhapsRows x = halvedElsewhere();
+            due("worst(0,0)", 2, x.worst(0, 0));
+            due("worst(0,1): 0 4, 6", 3, x.worst(0, 1));
+        });
+        edge("LIES of a HALVED row, what is learned of it and who is to blame", () -> {
+            PerhapsRows x = halvedElsewhere();
+            due("yes(0,1)", false, x.yes(0, 1));
+            due("lie(0,0)", 0, x.lie(0, 0));
+            due("lie(0,1)", 4, x.lie(0, 1));
+            due("lie(0,2)", NONE, x.lie(0, 2));
+            fill(x, 0, 1, 0);
+            due("learn(0,0,0): the PLACE 1 by 0", 1, x.learn(0, 0, 0));
+            due("learn(0,0,1): 0 4", 2, x.learn(0, 0, 1));
+            due("learn(0,0,2): 4", 1, x.learn(0, 0, 2));
+            due("ask(0,0)", 2, x.ask(0, 0));
+            due("blame(0,0): nobody's PLACES hold 1", NONE, x.blame(0, 0));
+            due("blame(0,5): 1 is at 2 now", 1, x.blame(0, 5));
+        });
     }
 
     private static void blames() {

@@ -256,6 +256,15 @@ public final class EdgesRowsTest extends Checks {
             due("grow(0)", 4, x.grow(0));
             due("of(0,6)", 0, x.of(0, 6));
         });
+        // anew 1 2 pushes 2 0 out of nest 2, and 5 3, the last, nobody
+        edge("PUSHES behind GROWN: of the last who was PUT anew, not of all", () -> {
+            PerhapsRows x = homes(4, 1);
+            putAll(x, 0, at(1, 1), at(2, 0), at(5, 3), at(1, 2));
+            due("of(0,6)", 1, x.of(0, 6));
+            due("grow(0)", 8, x.grow(0));
+            nestsHave(x, at(2, 0), at(1, 1), at(1, 2), NONE, NONE, at(5, 3), NONE, NONE);
+            due("of(0,6)", 0, x.of(0, 6));
+        });
     }
 
     // ------------------------------------------------------------ 10, 11
@@ -659,6 +668,13 @@ public final class EdgesRowsTest extends Checks {
             nestsHave(x, at(0, 1), at(1, 3), at(0, 2), at(3, 5), at(2, 4), NONE);
             due("PUSHES", 2, x.of(0, 6));
         });
+        // the guest of nest 0 has the other nest 1, which was come to as that of the new one's MARK 1
+        edge("that of MARK 1 isn't come to by way of that of MARK 0", () -> {
+            PerhapsRows x = homes(8, 1);
+            putAll(x, 0, at(1, 3), at(1, 0), at(0, 1));
+            nestsHave(x, at(1, 0), at(0, 1), NONE, at(1, 3));
+            due("PUSHES", 1, x.of(0, 6));
+        });
         edge("slot by slot: the first guest that can go", () -> {
             PerhapsRows x = homes(8, 2);
             putAll(x, 0, at(0, 2), at(0, 3), at(1, 1), at(1, 4), at(0, 1));
@@ -919,7 +935,7 @@ public final class EdgesRowsTest extends Checks {
             edge("unlike MARKS of " + KINDS[kind], () -> refused(STATE, () -> pair(kind, 8, 2, kind, 8, 1), x -> x.join(0, 1)));
             edge("both are one: " + KINDS[kind], () -> refused(ARGUMENT, () -> pair(kind, 8, 2, kind, 8, 2), x -> x.join(1, 1)));
             edge("the other stays: " + KINDS[kind], () -> unchanged(() -> pair(kind, 8, 2, kind, 8, 2),
-                    x -> x.join(0, 1), Look.ROW + 1, Look.RULES, Look.TAPE));
+                    x -> x.join(0, 1), Look.allBut(Look.ROW)));
         }
         edge("a ROW that is none comes ahead of a KIND that can't be", () -> {
             refused(NO_SUCH, x -> x.join(2, 4));
@@ -1273,8 +1289,8 @@ public final class EdgesRowsTest extends Checks {
             due("solve(0,0)", 1, x.solve(0, 0));
             cells(x, 0, 9);
         });
-        edge("the other rows and the TRAY stay", () -> unchanged(() -> solvedWith(6), x -> x.solve(0, 0), Look.ROW + 1,
-                Look.ROW + 2, Look.ROW + 3, Look.TRAYS, Look.TAPE, Look.FRACTION, Look.FAULT));
+        edge("the other rows and the TRAY stay", () -> unchanged(() -> solvedWith(6), x -> x.solve(0, 0),
+                Look.allBut(Look.ROW)));
     }
 
     /** Name n has the cells n and n+1: cell n is what n and all behind it ask for, together. */

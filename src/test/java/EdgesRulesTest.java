@@ -171,8 +171,18 @@ public final class EdgesRulesTest extends Checks {
             due("of(3,5)", 1, x.of(3, 5));
             cells(x, 3, 0, 0);
         });
-        edge("TRAYS, the FRACTION and IMAGES stay", () -> unchanged(Houses::full, x -> x.rules(20), Look.TRAYS,
-                Look.FRACTION, Look.IMAGES));
+        edge("TRAYS, the FRACTION and IMAGES stay", () -> unchanged(Houses::full, x -> x.rules(20), Look.allBut(
+                Look.RULES, Look.ROW, Look.ROW + 1, Look.ROW + 2, Look.ROW + 3, Look.TAPE, Look.FAULT)));
+        edge("the numbers of a TRAY stay", () -> {
+            PerhapsRows x = told(PLAIN);
+            fill(x, 0, 3, 9, 3);
+            due("rules", 2, tell(x, "world 10;mark 1;"));
+            x.make(0, 0, 1, 1, 0);
+            due("pour(0,0)", 3, x.pour(0, 0));
+            due("of(0,4)", 2, x.of(0, 4));
+            due("isPut(0,3)", true, x.isPut(0, 3));
+            due("isPut(0,9)", true, x.isPut(0, 9));
+        });
         edge("TEXTS of 600 bytes, one behind the other", () -> {
             PerhapsRows x = Houses.empty();
             for (int i = 1; i < 10; i++) {
@@ -191,8 +201,7 @@ public final class EdgesRulesTest extends Checks {
             int answer = -10 - kind;
             edge("-10 less the FAULT " + kind + ", all else stays", () -> {
                 due("rules of " + text, answer, fullWithTape(text).rules(text.length()));
-                unchanged(() -> fullWithTape(text), x -> x.rules(text.length()), Look.RULES, Look.ROW, Look.ROW + 1,
-                        Look.ROW + 2, Look.ROW + 3, Look.TRAYS, Look.IMAGES, Look.FRACTION);
+                unchanged(() -> fullWithTape(text), x -> x.rules(text.length()), Look.allBut(Look.TAPE, Look.FAULT));
             });
         }
         edge("the tape is empty then, behind a FAULT, too", () -> {
@@ -212,7 +221,7 @@ public final class EdgesRulesTest extends Checks {
         edge("LINES ahead of a FAULT change nothing", () -> {
             String text = "world 9;tags 9;tag 5;mark 5;$";
             due("rules", -11, fullWithTape(text).rules(text.length()));
-            unchanged(() -> fullWithTape(text), x -> x.rules(text.length()), Look.RULES, Look.ROW, Look.ROW + 1);
+            unchanged(() -> fullWithTape(text), x -> x.rules(text.length()), Look.RULES_AND_ROWS);
         });
     }
 

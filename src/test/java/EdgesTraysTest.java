@@ -56,8 +56,7 @@ public final class EdgesTraysTest extends Checks {
             x.tray(0, 1, 1);
             due("write of 16 bits", 257, x.write(0, 0, 257));
         });
-        edge("all else stays", () -> unchanged(Houses::full, x -> x.tray(3, 0, 40), Look.RULES, Look.ROW, Look.ROW + 1,
-                Look.ROW + 2, Look.ROW + 3, Look.IMAGES, Look.TAPE, Look.FAULT, Look.FRACTION));
+        edge("all else stays", () -> unchanged(Houses::full, x -> x.tray(3, 0, 40), Look.allBut(Look.TRAY + 3)));
     }
 
     // ------------------------------------------------------------ 33
@@ -114,8 +113,7 @@ public final class EdgesTraysTest extends Checks {
             due("pour(0,0)", 1, x.pour(0, 0));
             due("isPut(0,9)", true, x.isPut(0, 9));
         });
-        edge("all else stays", () -> unchanged(Houses::full, x -> x.write(0, 0, 7), Look.RULES, Look.ROW, Look.ROW + 1,
-                Look.ROW + 2, Look.ROW + 3, Look.IMAGES, Look.TAPE, Look.FAULT, Look.FRACTION));
+        edge("all else stays", () -> unchanged(Houses::full, x -> x.write(0, 0, 7), Look.allBut(Look.TRAY)));
     }
 
     // ------------------------------------------------------------ 34
@@ -189,8 +187,8 @@ public final class EdgesTraysTest extends Checks {
             due("pour(3,0)", 3, x.pour(3, 0));
             due("of(3,5)", 3, x.of(3, 5));
         });
-        edge("the TRAY stays", () -> unchanged(() -> bitsAndTray(2, 3), x -> x.pour(0, 0), Look.TRAYS, Look.ROW + 1,
-                Look.ROW + 2, Look.ROW + 3, Look.IMAGES, Look.RULES, Look.TAPE, Look.FAULT, Look.FRACTION));
+        edge("the TRAY stays", () -> unchanged(() -> bitsAndTray(2, 3), x -> x.pour(0, 0),
+                Look.allBut(Look.ROW)));
     }
 
     // ------------------------------------------------------------ 35, 36
@@ -200,8 +198,7 @@ public final class EdgesTraysTest extends Checks {
         for (int i : NONE_OF_THREE) {
             edge("no such IMAGE: " + i, () -> refused(NO_SUCH, x -> x.image(i)));
         }
-        edge("nothing else changes", () -> unchanged(Houses::full, x -> x.image(1), Look.RULES, Look.ROW, Look.ROW + 1,
-                Look.ROW + 2, Look.ROW + 3, Look.TRAYS, Look.TAPE, Look.FAULT, Look.FRACTION));
+        edge("nothing else changes", () -> unchanged(Houses::full, x -> x.image(1), Look.allBut(Look.IMAGE + 1)));
         edge("IMAGES 0 to 2 are three", () -> {
             PerhapsRows x = told(PLAIN);
             for (int i = 0; i < 3; i++) {
@@ -247,34 +244,34 @@ public final class EdgesTraysTest extends Checks {
             int image = i;
             edge("none was made at first: " + i, () -> refused(STATE, Houses::solved, x -> x.restore(image)));
         }
-        edge("the tape, the FAULT, the FRACTION and TRAYS stay", () -> unchanged(Houses::full, x -> x.restore(2), Look.TAPE,
-                Look.FAULT, Look.FRACTION, Look.TRAYS, Look.IMAGES));
+        edge("the tape, the FAULT, the FRACTION and TRAYS stay", () -> unchanged(Houses::full, x -> x.restore(2),
+                Look.allBut(Look.RULES_AND_ROWS)));
         edge("all is as it was when it is made and brought back at once", () -> unchanged(Houses::full, x -> {
             x.image(1);
             x.restore(1);
-        }, Look.RULES, Look.ROW, Look.ROW + 1, Look.ROW + 2, Look.ROW + 3, Look.TRAYS, Look.TAPE, Look.FAULT, Look.FRACTION));
+        }, Look.allBut(Look.IMAGE + 1)));
         edge("all is as it was, whatever came between", () -> unchanged(Houses::full, x -> {
             x.image(1);
             changeAll(x);
             x.restore(1);
-        }, Look.RULES, Look.ROW, Look.ROW + 1, Look.ROW + 2, Look.ROW + 3));
+        }, Look.RULES_AND_ROWS));
         edge("twice, with changes between", () -> unchanged(Houses::full, x -> {
             x.image(1);
             changeAll(x);
             x.restore(1);
             changeAll(x);
             x.restore(1);
-        }, Look.RULES, Look.ROW, Look.ROW + 1, Look.ROW + 2, Look.ROW + 3));
+        }, Look.RULES_AND_ROWS));
         edge("what is SOLVED is as it was", () -> unchanged(Houses::solved, x -> {
             x.image(1);
             x.solve(0, 2);
             x.restore(1);
-        }, Look.RULES, Look.ROW, Look.ROW + 1, Look.ROW + 2, Look.ROW + 3));
+        }, Look.RULES_AND_ROWS));
         edge("THE RULES, too, with their TAGS and MARKS", () -> unchanged(Houses::full, x -> {
             x.image(1);
             tell(x, "world 256;tags 64;tag 3;mark 1;mark 2;mark 3;mark 4;mark 5;mark 6;");
             x.restore(1);
-        }, Look.RULES, Look.ROW, Look.ROW + 1, Look.ROW + 2, Look.ROW + 3, Look.TRAYS, Look.FRACTION));
+        }, Look.allBut(Look.IMAGE + 1, Look.TAPE, Look.FAULT)));
         edge("ROWS that are made since aren't there then", () -> {
             PerhapsRows x = Houses.full();
             due("count(4)", 15, x.count(4));

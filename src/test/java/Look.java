@@ -1,20 +1,26 @@
+import java.util.stream.IntStream;
+
 /**
  * All that can be seen of an object, a part at a time. Looking may change the object (a tray is read by being poured),
  * so that each part is looked at on an object of its own; none needs more than the 512 calls that an object has.
  */
 final class Look extends Checks {
-    static final int RULES = 0;
-    static final int ROW = 1;
-    static final int TRAYS = 5;
-    static final int IMAGES = 6;
-    static final int TAPE = 7;
-    static final int FAULT = 8;
-    static final int FRACTION = 9;
-    static final int[] ALL = {RULES, ROW, ROW + 1, ROW + 2, ROW + 3, TRAYS, IMAGES, TAPE, FAULT, FRACTION};
-
     private static final int MANY_ROWS = 4;
     private static final int MANY_TRAYS = 4;
     private static final int MANY_IMAGES = 3;
+
+    /** The parts; of ROW, TRAY and IMAGE it is the first one's. */
+    static final int RULES = 0;
+    static final int ROW = 1;
+    static final int TRAY = ROW + MANY_ROWS;
+    static final int IMAGE = TRAY + MANY_TRAYS;
+    static final int TAPE = IMAGE + MANY_IMAGES;
+    static final int FAULT = TAPE + 1;
+    static final int FRACTION = FAULT + 1;
+    static final int[] ALL = IntStream.rangeClosed(RULES, FRACTION).toArray();
+    static final int[] ROWS = IntStream.range(ROW, TRAY).toArray();
+    static final int[] RULES_AND_ROWS = IntStream.range(RULES, TRAY).toArray();
+
     private static final int NAMES_LOOKED_AT = 20;
     private static final int MOST_PLACES = 300;
     private static final int[] SOME_NAMES = {-1, 0, 1, 3, 8, 15};
@@ -31,14 +37,27 @@ final class Look extends Checks {
         Look look = new Look(x);
         switch (part) {
             case RULES -> look.rules();
-            case TRAYS -> look.trays();
-            case IMAGES -> look.images();
             case TAPE -> look.tape();
             case FAULT -> look.note("fault", x.fault(0), x.fault(1));
             case FRACTION -> look.note("fraction", x.upper(), x.lower());
-            default -> look.row(part - ROW);
+            default -> look.oneOfMany(part);
         }
         return look.seen.toString();
+    }
+
+    private void oneOfMany(int part) {
+        if (part >= IMAGE) {
+            image(part - IMAGE);
+        } else if (part >= TRAY) {
+            tray(part - TRAY);
+        } else {
+            row(part - ROW);
+        }
+    }
+
+    /** All parts but these. */
+    static int[] allBut(int... parts) {
+        return IntStream.of(ALL).filter(part -> IntStream.of(parts).noneMatch(p -> p == part)).toArray();
     }
 
     private void note(String what, Object... answers) {
@@ -104,8 +123,9 @@ final class Look extends Checks {
     }
 
     private void row(int row) {
-        note("there", x.count(4));
-        if ((x.count(4) >> row & 1) == 0) {
+        boolean there = (x.count(4) >> row & 1) != 0;
+        note("there", there);
+        if (!there) {
             return;
         }
         numbersOf(row);
@@ -129,44 +149,41 @@ final class Look extends Checks {
         cellsOf(row);
     }
 
-    /** Each number of a tray that is a name below 256 is WRONGED by one of two rows that say yes to all. */
-    private void trays() {
+    /** Each number of the tray that is a name below 256 is WRONGED by one of two rows that say yes to all. */
+    private void tray(int tray) {
+        // rules are told to read it: whether it is MISSING shows ahead of them
+        see("missing", y -> y.write(tray, -1, 0));
         x.rules(x.count(5));
         tell(x, "world 256;mark 0;");
         for (int r = 0; r < 2; r++) {
-            x.make(r, 0, 1, 1, 0);
-            x.put(r, r);
+            int row = r;
+            x.make(row, 0, 1, 1, 0);
+            x.put(row, row);
+            Object answer = see("wronged", y -> y.wronged(row, tray, NONE));
+            for (int k = 0; answer instanceof Integer many && k < many; k++) {
+                int at = k;
+                see("wronged", y -> y.wronged(row, tray, at));
+            }
         }
-        for (int t = 0; t < MANY_TRAYS; t++) {
-            int tray = t;
-            for (int r = 0; r < 2; r++) {
-                int row = r;
-                Object answer = see("wronged", y -> y.wronged(row, tray, NONE));
-                for (int k = 0; answer instanceof Integer many && k < many; k++) {
-                    int at = k;
-                    see("wronged", y -> y.wronged(row, tray, at));
-                }
-            }
-            threw = false;
-            for (int p = 0; !threw && p < MOST_PLACES; p++) {
-                int place = p;
-                see("write", y -> y.write(tray, place, 0x8796a5b4c3d2e1f0L));
-            }
+        threw = false;
+        for (int p = 0; !threw && p < MOST_PLACES; p++) {
+            int place = p;
+            see("write", y -> y.write(tray, place, 0x8796a5b4c3d2e1f0L));
         }
     }
 
-    private void images() {
-        for (int i = 0; i < MANY_IMAGES; i++) {
-            int image = i;
-            see("restore", y -> {
-                y.restore(image);
-                return "done";
-            });
-            note("rules", x.count(0), x.count(1), x.count(2), x.count(3), x.count(4));
-            for (int row = 0; row < MANY_ROWS; row++) {
-                numbersOf(row);
-                cellsOf(row);
-            }
+    private void image(int image) {
+        see("restore", y -> {
+            y.restore(image);
+            return "done";
+        });
+        if (threw) {
+            return;
+        }
+        note("rules", x.count(0), x.count(1), x.count(2), x.count(3), x.count(4));
+        for (int row = 0; row < MANY_ROWS; row++) {
+            numbersOf(row);
+            cellsOf(row);
         }
     }
 
